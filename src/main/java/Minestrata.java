@@ -650,10 +650,10 @@ public final class Minestrata {
     /** Linear equations modulo a prime, the right sides in the column behind the last unknown. */
     private static final class Equations {
         final long[][] row = new long[MOST_JUNCTIONS][MOST_JUNCTIONS + 1];
-        private long prime;
+        private long prime = 2;
 
         void begin(int unknowns, long modulus) {
-            prime = modulus;
+            prime = Math.max(modulus, 2);
             for (int i = 0; i < unknowns; i++) {
                 for (int k = 0; k <= unknowns; k++) {
                     row[i][k] = 0;
@@ -851,7 +851,7 @@ public final class Minestrata {
             return low;
         }
 
-        /** Answers -1, 0 or 1 as so many divisors are less than, equal to or more than the scaled number. */
+        /** Answers -1, 0 or 1 as so many times the divisor is less than, equal to or more than the scaled number. */
         private int compare(Radix radix, int times) {
             int order = 0;
             long carry = 0;
@@ -1507,11 +1507,10 @@ public final class Minestrata {
         }
 
         private void findPenalty(int layer, int tons) {
-            int most = tons * MOST_GRADE;
-            for (penalty = 0; penalty <= most; penalty++) {
-                if (isReached(layer, tons, 0)) {
-                    return;
-                }
+            boolean isFound = false;
+            for (int amount = 0; amount <= tons * MOST_GRADE && !isFound; amount++) {
+                penalty = amount;
+                isFound = isReached(layer, tons, 0);
             }
         }
 
