@@ -1362,9 +1362,9 @@ public final class Minestrata {
             }
         }
 
+        /** Its strength is asked of a stope with ore alone, so a filled one needs none. */
         void fill(int stope) {
             state[stope] = 'c';
-            strength[stope] = 99;
         }
 
         void setFillings() {
@@ -1397,7 +1397,6 @@ public final class Minestrata {
                 load[i] = other.load[i];
                 state[i] = other.state[i];
                 pile[i] = other.pile[i];
-                strength[i] = other.strength[i];
             }
         }
 

@@ -217,6 +217,8 @@ public final class PromiseTest {
         Check.is("again", m.setRight(1), 250);
         m.shift();
         Check.is("drifts anew", m.reading(1), 280);
+        m.step('s', 1, 2);
+        Check.is("new gas, looked at by this call", m.setRight(1), 530);
     }
 
     private static void promise9Values() {
@@ -286,6 +288,15 @@ public final class PromiseTest {
         Check.is("flow", m.flow(0), -10000);
         m.step('n', 0, 9);
         Check.is("draught 9", m.flow(0), -7000);
+        m.come(2);
+        Check.is("refused", m.step('b', 0, 1), 'w');
+        Check.is("by the first", m.refusedBy(), 0);
+        m.setLimit(143);
+        Check.is("a draught that leaves gas", m.step('s', 2, 1), '.');
+        Check.is("is refused", m.step('n', 0, 29), 'g');
+        Check.is("and undone", m.pressure(0), 9000);
+        Check.is("no gas", m.step('s', 2, 0), '.');
+        m.walk(0, 0);
         m.step('f', 1, -6);
         Check.is("fan -6", m.flow(1), -9000);
         m.step('d', 1, 1);
@@ -627,7 +638,9 @@ public final class PromiseTest {
         Check.fails("junction 3", Check.BOUNDS, () -> m.isGood(3));
         Check.fails("junction -1", Check.BOUNDS, () -> m.isGood(-1));
         Check.is("no gas", m.isGood(2), true);
+        m.come(0);
         m.step('s', 2, 1);
+        Check.fails("a bad place, looked at by this call", Check.UNSUPPORTED, () -> m.walk(0, 0));
         m.setLimit(9998);
         Check.is("full", m.isGood(2), false);
         m.step('n', 1, 9);
@@ -803,6 +816,42 @@ public final class PromiseTest {
     private static void safe(Minestrata m, int person, boolean due) {
         Check.is("isSafe(" + person + ")", m.isSafe(person), due);
         Check.is("isSafeAnew(" + person + ")", m.isSafeAnew(person), due);
+    }
+
+    /** Junction 2 is bad, and every road there leads to it as its second end, then as its first one. */
+    private static void promises22And23Bad() {
+        for (int turn = 0; turn < 2; turn++) {
+            Minestrata m = new Minestrata();
+            m.addJunction(true, 0);
+            m.addJunction(false, 0);
+            m.addJunction(false, 0);
+            m.addRoad(0, 1, 1, false);
+            m.addRoad(turn == 0 ? 1 : 2, turn == 0 ? 2 : 1, 1, false);
+            m.addRoad(turn == 0 ? 0 : 2, turn == 0 ? 2 : 0, 1, true);
+            m.come(1);
+            Check.is("with isSafeAnew first", m.isSafeAnew(0), true);
+            m.walk(0, 0);
+            m.step('s', 2, 1);
+            m.walk(0, 0);
+            Check.is("with isSafeAnew first", m.isSafeAnew(0), false);
+            safe(m, 0, false);
+            m.setLimit(9998);
+            m.shift();
+            Check.is("it is full", m.isFull(2), true);
+        }
+        Minestrata m = pair();
+        m.come(1);
+        m.setSensor(0, 0);
+        m.step('b', 0, 0);
+        Check.is("after a step, isSafeAnew first", m.isSafeAnew(0), true);
+        m.setLimit(0);
+        m.step('f', 0, 50);
+        m.walk(0, 0);
+        m.step('s', 1, 20);
+        m.setLimit(800);
+        m.walk(0, 0);
+        m.setLimit(799);
+        Check.is("with isSafeAnew first", m.isSafeAnew(0), false);
     }
 
     /** A shift may leave people in gas: then the junction is not good, whatever ways there are. */
@@ -1045,6 +1094,7 @@ public final class PromiseTest {
         taken(piles(10, 0, 10, 0, 10, 0), 15, 0, 999, 0, 10, 5, 0);
         taken(piles(10, 500, 10, 500, 10, 500), 20, 0, 999, 0, 10, 10, 0);
         taken(piles(20, 0, 20, 999), 20, 999, 999, 0, 0, 20);
+        taken(piles(19, 999, 1, 999), 20, 999, 999, 0, 19, 1);
         taken(piles(20, 0), 20, 999, 999, 19980, 20);
         taken(piles(20, 999), 20, 0, 0, 19980, 20);
         taken(piles(5, 10, 0, 20, 5, 30), 4, 20, 20, 0, 2, 0, 2);
@@ -1099,6 +1149,7 @@ public final class PromiseTest {
         Check.is("not of its junction", m.isBlocked(1), false);
         Check.is("of its junction", m.isBlocked(2), true);
         Check.is("of its junction", m.isBlocked(3), true);
+        Check.is("air as it is now", m.flow(3), 0);
         m.addRoad(2, 0, 1, false);
         Check.is("a new road", m.isBlocked(4), false);
         m.step('b', 2, 0);
@@ -1226,6 +1277,7 @@ public final class PromiseTest {
         promise20();
         promise21();
         promises22And23();
+        promises22And23Bad();
         promises22And23Gas();
         promise24();
         promise24TakeBack();

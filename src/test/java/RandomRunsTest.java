@@ -1,4 +1,5 @@
 import java.util.ArrayList;
+import java.util.Collections;
 import java.util.List;
 import java.util.Random;
 import java.util.function.Supplier;
@@ -52,7 +53,7 @@ public final class RandomRunsTest {
     }
 
     private void junction() {
-        boolean s = kind == 3 ? !once(3) : once(3);
+        boolean s = kind == 3 ? !once(3) : kind == 7 ? model.js.isEmpty() : once(3);
         int d = kind == 2 ? (once(2) ? 0 : in(-50, 50)) : kind == 4 ? 0 : value(-50, 50);
         same("addJunction(" + s + ", " + d + ")", () -> mine.addJunction(s, d), () -> model.addJunction(s, d));
     }
@@ -93,6 +94,21 @@ public final class RandomRunsTest {
         same("step(" + k + ", " + n + ", " + v + ")", () -> mine.step(kk, n, v), () -> model.step(kk, n, v));
         same("refusedBy()", mine::refusedBy, model::refusedBy);
         same("refused()", mine::refused, () -> model.refused);
+    }
+
+    private void makeGas() {
+        for (int i = 0; i < model.js.size(); i++) {
+            int j = i;
+            int v = once(2) ? 0 : in(1, 20);
+            same("step(s, " + j + ", " + v + ")", () -> mine.step('s', j, v), () -> model.step('s', j, v));
+        }
+        for (int i = 0; i < model.rs.size(); i++) {
+            int r = i;
+            int v = in(-50, 50);
+            same("step(f, " + r + ", " + v + ")", () -> mine.step('f', r, v), () -> model.step('f', r, v));
+        }
+        int l = in(0, 1500);
+        same("setLimit(" + l + ")", () -> mine.setLimit(l), () -> model.setLimit(l));
     }
 
     private void person() {
@@ -140,28 +156,46 @@ public final class RandomRunsTest {
         }
     }
 
+    /** One question or some, in any order, so that each is the first after a change at some time. */
     private void lookAtOne() {
         int j = of(model.js.size());
         int r = of(model.rs.size());
         int s = of(model.ss.size());
         int p = of(model.at.size());
-        same("pressure(" + j + ")", () -> mine.pressure(j), () -> model.pressure(j));
-        same("gas(" + j + ")", () -> mine.gas(j), () -> model.gas(j));
-        same("isFull(" + j + ")", () -> mine.isFull(j), () -> model.isFull(j));
-        same("isGood(" + j + ")", () -> mine.isGood(j), () -> model.isGood(j));
-        same("reading(" + j + ")", () -> mine.reading(j), () -> model.reading(j));
-        same("hasPower(" + j + ")", () -> mine.hasPower(j), () -> model.hasPower(j));
-        if (once(6)) same("ways(" + j + ")", () -> mine.ways(j), () -> model.ways(j, 15));
-        same("flow(" + r + ")", () -> mine.flow(r), () -> model.flow(r));
-        same("isBlocked(" + r + ")", () -> mine.isBlocked(r), () -> model.isBlocked(r));
-        same("whereIs(" + p + ")", () -> mine.whereIs(p), () -> model.whereIs(p));
-        same("isSafe(" + p + ")", () -> mine.isSafe(p), () -> model.isSafe(p));
-        same("isSafeAnew(" + p + ")", () -> mine.isSafeAnew(p), () -> model.isSafe(p));
-        same("tons(" + s + ")", () -> mine.tons(s), () -> model.tons(s));
-        same("load(" + s + ")", () -> mine.load(s), () -> model.load(s));
-        same("stateOf(" + s + ")", () -> mine.stateOf(s), () -> model.stateOf(s));
-        same("pile(" + s + ")", () -> mine.pile(s), () -> model.pile(s));
-        same("delivered(" + s + ")", () -> mine.delivered(s), () -> model.delivered(s));
+        List<Runnable> looks = new ArrayList<>(List.of(
+            () -> same("pressure(" + j + ")", () -> mine.pressure(j), () -> model.pressure(j)),
+            () -> same("gas(" + j + ")", () -> mine.gas(j), () -> model.gas(j)),
+            () -> same("isFull(" + j + ")", () -> mine.isFull(j), () -> model.isFull(j)),
+            () -> same("isGood(" + j + ")", () -> mine.isGood(j), () -> model.isGood(j)),
+            () -> same("reading(" + j + ")", () -> mine.reading(j), () -> model.reading(j)),
+            () -> same("hasPower(" + j + ")", () -> mine.hasPower(j), () -> model.hasPower(j)),
+            () -> same("flow(" + r + ")", () -> mine.flow(r), () -> model.flow(r)),
+            () -> same("isBlocked(" + r + ")", () -> mine.isBlocked(r), () -> model.isBlocked(r)),
+            () -> same("whereIs(" + p + ")", () -> mine.whereIs(p), () -> model.whereIs(p)),
+            () -> same("isSafe(" + p + ")", () -> mine.isSafe(p), () -> model.isSafe(p)),
+            () -> same("isSafeAnew(" + p + ")", () -> mine.isSafeAnew(p), () -> model.isSafe(p)),
+            () -> same("tons(" + s + ")", () -> mine.tons(s), () -> model.tons(s)),
+            () -> same("load(" + s + ")", () -> mine.load(s), () -> model.load(s)),
+            () -> same("stateOf(" + s + ")", () -> mine.stateOf(s), () -> model.stateOf(s)),
+            () -> same("pile(" + s + ")", () -> mine.pile(s), () -> model.pile(s)),
+            () -> same("delivered(" + s + ")", () -> mine.delivered(s), () -> model.delivered(s))));
+        if (once(6)) looks.add(() -> same("ways(" + j + ")", () -> mine.ways(j), () -> model.ways(j, 15)));
+        Collections.shuffle(looks, random);
+        for (Runnable look : looks.subList(0, in(1, looks.size()))) look.run();
+    }
+
+    /** Where ways cross, one that was found first must make room for another. */
+    private void lookAtWays() {
+        for (int i = 0; i < model.js.size(); i++) {
+            int j = i;
+            same("ways(" + j + ")", () -> mine.ways(j), () -> model.ways(j, 15));
+            same("come(" + j + ")", () -> mine.come(j), () -> model.come(j));
+        }
+        for (int i = 0; i < model.at.size(); i++) {
+            int p = i;
+            same("isSafeAnew(" + p + ")", () -> mine.isSafeAnew(p), () -> model.isSafe(p));
+            same("isSafe(" + p + ")", () -> mine.isSafe(p), () -> model.isSafe(p));
+        }
     }
 
     private void lookAtAll() {
@@ -184,13 +218,15 @@ public final class RandomRunsTest {
     }
 
     private void run() {
-        int js = kind == 2 ? 9 : in(1, 9);
-        int rs = kind == 2 || kind == 3 ? 14 : in(0, 14);
+        int js = kind == 2 ? 9 : kind == 7 ? in(4, 9) : in(1, 9);
+        int rs = kind == 2 || kind == 3 || kind == 7 ? 20 : in(0, 14);
         for (int i = 0; i < js; i++) junction();
         for (int i = 0; i < rs; i++) road();
         for (int i = in(0, 8); i > 0; i--) stope();
         for (int i = in(0, 12); i > 0; i--) join();
         look();
+        if (kind == 6) makeGas();
+        if (kind == 6 || kind == 7) lookAtWays();
         for (int turn = 0; turn < 60; turn++) {
             int what = random.nextInt(20);
             if (what == 0) junction();
@@ -213,7 +249,7 @@ public final class RandomRunsTest {
         long seed0 = args.length > 1 ? Long.parseLong(args[1]) : 1;
         int failed = 0;
         for (int i = 0; i < runs && failed < 5; i++) {
-            RandomRunsTest test = new RandomRunsTest(seed0 + i, i % 6);
+            RandomRunsTest test = new RandomRunsTest(seed0 + i, i % 8);
             test.run();
             if (test.wrong > 0) {
                 failed++;
