@@ -227,7 +227,8 @@ public final class RandomRunsTest {
         look();
         if (kind == 6) makeGas();
         if (kind == 6 || kind == 7) lookAtWays();
-        for (int turn = 0; turn < 60; turn++) {
+        int turns = once(10) ? 200 : 60;
+        for (int turn = 0; turn < turns; turn++) {
             int what = random.nextInt(20);
             if (what == 0) junction();
             else if (what == 1) road();
@@ -237,7 +238,7 @@ public final class RandomRunsTest {
             else if (what < 13) step();
             else if (what < 15) sensor();
             else if (what == 15) narrowLimit();
-            else if (what == 16) deliver();
+            else if (what == 16 || kind == 5 && once(3)) deliver();
             else if (what == 17) lookAtAll();
             else lookAtOne();
         }
