@@ -5,51 +5,6 @@ public final class PromiseTest {
 
     private PromiseTest() { }
 
-    /** Surface 0 with draught 0, surface 1 with the draught told, junction 2 between them; roads 0-2 (1), 2-1 (2). */
-    private static Minestrata line(int draught) {
-        Minestrata m = new Minestrata();
-        m.addJunction(true, 0);
-        m.addJunction(true, draught);
-        m.addJunction(false, 0);
-        m.addRoad(0, 2, 1, true);
-        m.addRoad(2, 1, 2, true);
-        return m;
-    }
-
-    /** A surface 0, a junction 1, and two roads between them of resistance 1, both leading from 0 to 1. */
-    private static Minestrata pair() {
-        Minestrata m = new Minestrata();
-        m.addJunction(true, 0);
-        m.addJunction(false, 0);
-        m.addRoad(0, 1, 1, true);
-        m.addRoad(0, 1, 1, true);
-        return m;
-    }
-
-    /** The pair with stopes at junction 1, all neighbours of stope 0, each of 10 tons with its strength. */
-    private static Minestrata stopes(int... strengths) {
-        Minestrata m = pair();
-        for (int strength : strengths) {
-            m.addStope(1, 10, 100, strength);
-        }
-        for (int i = 1; i < strengths.length; i++) {
-            m.join(0, i);
-        }
-        return m;
-    }
-
-    /** The pair with piles of so many tons and grades. */
-    private static Minestrata piles(int... tonsAndGrades) {
-        Minestrata m = pair();
-        for (int i = 0; i < tonsAndGrades.length; i += 2) {
-            m.addStope(1, 60, tonsAndGrades[i + 1], 99);
-            if (tonsAndGrades[i] > 0) {
-                m.step('o', i / 2, tonsAndGrades[i]);
-            }
-        }
-        return m;
-    }
-
     private static void promise1() {
         Minestrata m = new Minestrata();
         Check.fails("no junction", Check.BOUNDS, () -> m.gas(0));
@@ -88,7 +43,7 @@ public final class PromiseTest {
     }
 
     private static void promise3() {
-        Minestrata m = line(10);
+        Minestrata m = Mines.line(10);
         Check.fails("first -1", Check.BOUNDS, () -> m.addRoad(-1, 0, 1, false));
         Check.fails("second 3", Check.BOUNDS, () -> m.addRoad(0, 3, 1, false));
         Check.fails("second most", Check.BOUNDS, () -> m.addRoad(0, MAX, 1, false));
@@ -116,7 +71,7 @@ public final class PromiseTest {
     }
 
     private static void promise4() {
-        Minestrata m = pair();
+        Minestrata m = Mines.pair();
         Check.fails("junction 2", Check.BOUNDS, () -> m.addStope(2, 1, 1, 20));
         Check.fails("junction -1, tons 0", Check.BOUNDS, () -> m.addStope(-1, 0, 1, 20));
         Check.fails("at the surface", Check.ARGUMENT, () -> m.addStope(0, 1, 1, 20));
@@ -143,7 +98,7 @@ public final class PromiseTest {
     }
 
     private static void promise5() {
-        Minestrata m = pair();
+        Minestrata m = Mines.pair();
         m.addStope(1, 5, 5, 50);
         m.addStope(1, 5, 5, 50);
         m.addStope(1, 5, 5, 50);
@@ -165,7 +120,7 @@ public final class PromiseTest {
     }
 
     private static void promise6() {
-        Minestrata m = pair();
+        Minestrata m = Mines.pair();
         Check.fails("-1", Check.ARGUMENT, () -> m.setLimit(-1));
         Check.fails("9999", Check.ARGUMENT, () -> m.setLimit(9999));
         Check.fails("least", Check.ARGUMENT, () -> m.setLimit(MIN));
@@ -182,7 +137,7 @@ public final class PromiseTest {
     }
 
     private static void promise7() {
-        Minestrata m = pair();
+        Minestrata m = Mines.pair();
         Check.fails("junction 2", Check.BOUNDS, () -> m.setSensor(2, 0));
         Check.fails("junction -1 and drift 51", Check.BOUNDS, () -> m.setSensor(-1, 51));
         Check.fails("drift 51", Check.ARGUMENT, () -> m.setSensor(0, 51));
@@ -201,7 +156,7 @@ public final class PromiseTest {
     }
 
     private static void promise8() {
-        Minestrata m = pair();
+        Minestrata m = Mines.pair();
         Check.fails("junction 2", Check.BOUNDS, () -> m.setRight(2));
         Check.fails("junction least", Check.BOUNDS, () -> m.setRight(MIN));
         Check.fails("none", Check.NO_ELEMENT, () -> m.setRight(1));
@@ -222,7 +177,7 @@ public final class PromiseTest {
     }
 
     private static void promise9Values() {
-        Minestrata m = line(0);
+        Minestrata m = Mines.line(0);
         m.addStope(2, 60, 1, 99);
         Check.fails("kind q", Check.ARGUMENT, () -> m.step('q', 0, 0));
         Check.fails("kind D", Check.ARGUMENT, () -> m.step('D', 0, 0));
@@ -255,7 +210,7 @@ public final class PromiseTest {
     }
 
     private static void promise9Possible() {
-        Minestrata m = line(0);
+        Minestrata m = Mines.line(0);
         m.addRoad(0, 2, 5, false);
         m.addStope(2, 5, 1, 99);
         Check.fails("no door", Check.UNSUPPORTED, () -> m.step('d', 2, 0));
@@ -284,7 +239,7 @@ public final class PromiseTest {
     }
 
     private static void promise9Changes() {
-        Minestrata m = line(30);
+        Minestrata m = Mines.line(30);
         Check.is("flow", m.flow(0), -10000);
         m.step('n', 0, 9);
         Check.is("draught 9", m.flow(0), -7000);
@@ -316,7 +271,7 @@ public final class PromiseTest {
     }
 
     private static void promise9Refusal() {
-        Minestrata m = pair();
+        Minestrata m = Mines.pair();
         m.addRoad(1, 0, 1, false);
         m.addStope(1, 7, 3, 20);
         m.setLimit(50);
@@ -345,7 +300,7 @@ public final class PromiseTest {
 
     /** Collapses are undone as a whole. */
     private static void promise9Undo() {
-        Minestrata m = stopes(50, 10, 12);
+        Minestrata m = Mines.stopes(50, 10, 12);
         m.join(1, 2);
         m.come(1);
         Check.is("a collapse blocks", m.step('o', 0, 10), 'w');
@@ -368,7 +323,7 @@ public final class PromiseTest {
     }
 
     private static void promise10() {
-        Minestrata m = pair();
+        Minestrata m = Mines.pair();
         m.addRoad(1, 0, 1, false);
         Check.fails("no step", Check.NO_ELEMENT, m::refusedBy);
         m.come(0);
@@ -390,7 +345,7 @@ public final class PromiseTest {
     }
 
     private static void promise11() {
-        Minestrata m = stopes(50, 50);
+        Minestrata m = Mines.stopes(50, 50);
         m.step('o', 0, 10);
         m.step('c', 0, 0);
         Check.is("filled", m.stateOf(0), 'c');
@@ -453,7 +408,7 @@ public final class PromiseTest {
     }
 
     private static void promise12() {
-        Minestrata m = line(10);
+        Minestrata m = Mines.line(10);
         Check.fails("road 2", Check.BOUNDS, () -> m.flow(2));
         Check.fails("road -1", Check.BOUNDS, () -> m.flow(-1));
         Check.fails("road most", Check.BOUNDS, () -> m.flow(MAX));
@@ -501,7 +456,7 @@ public final class PromiseTest {
     }
 
     private static void promise13() {
-        Minestrata m = line(10);
+        Minestrata m = Mines.line(10);
         Check.fails("junction 3", Check.BOUNDS, () -> m.pressure(3));
         Check.fails("junction -1", Check.BOUNDS, () -> m.pressure(-1));
         Check.is("draught", m.pressure(1), 10000);
@@ -528,7 +483,7 @@ public final class PromiseTest {
     }
 
     private static void promise14() {
-        Minestrata m = line(30);
+        Minestrata m = Mines.line(30);
         Check.fails("junction 3", Check.BOUNDS, () -> m.gas(3));
         Check.fails("junction -1", Check.BOUNDS, () -> m.gas(-1));
         m.step('s', 2, 7);
@@ -603,7 +558,7 @@ public final class PromiseTest {
     }
 
     private static void promise15() {
-        Minestrata m = line(0);
+        Minestrata m = Mines.line(0);
         Check.fails("junction 3", Check.BOUNDS, () -> m.isFull(3));
         Check.fails("junction least", Check.BOUNDS, () -> m.isFull(MIN));
         Check.is("no source", m.isFull(2), false);
@@ -634,7 +589,7 @@ public final class PromiseTest {
     }
 
     private static void promise16() {
-        Minestrata m = line(0);
+        Minestrata m = Mines.line(0);
         Check.fails("junction 3", Check.BOUNDS, () -> m.isGood(3));
         Check.fails("junction -1", Check.BOUNDS, () -> m.isGood(-1));
         Check.is("no gas", m.isGood(2), true);
@@ -660,7 +615,7 @@ public final class PromiseTest {
     }
 
     private static void promise17() {
-        Minestrata m = line(9);
+        Minestrata m = Mines.line(9);
         Check.fails("junction 3", Check.BOUNDS, () -> m.reading(3));
         Check.fails("junction -1", Check.BOUNDS, () -> m.reading(-1));
         Check.fails("none", Check.NO_ELEMENT, () -> m.reading(2));
@@ -684,7 +639,7 @@ public final class PromiseTest {
     }
 
     private static void promise18() {
-        Minestrata m = line(9);
+        Minestrata m = Mines.line(9);
         Check.fails("junction 3", Check.BOUNDS, () -> m.hasPower(3));
         Check.fails("junction -1", Check.BOUNDS, () -> m.hasPower(-1));
         m.step('s', 2, 20);
@@ -708,7 +663,7 @@ public final class PromiseTest {
     }
 
     private static void promise19() {
-        Minestrata m = pair();
+        Minestrata m = Mines.pair();
         m.addJunction(false, 0);
         m.addRoad(0, 2, 1, false);
         Check.fails("junction 3", Check.BOUNDS, () -> m.come(3));
@@ -725,7 +680,7 @@ public final class PromiseTest {
         Check.fails("a thirteenth unsafe", Check.UNSUPPORTED, () -> m.come(2));
         Check.fails("a thirteenth nowhere", Check.BOUNDS, () -> m.come(3));
         Check.is("twelve", m.people(), 12);
-        Minestrata gas = pair();
+        Minestrata gas = Mines.pair();
         gas.setLimit(9);
         gas.step('f', 0, 20);
         gas.step('s', 1, 1);
@@ -733,7 +688,7 @@ public final class PromiseTest {
     }
 
     private static void promise20() {
-        Minestrata m = pair();
+        Minestrata m = Mines.pair();
         m.addJunction(false, 0);
         m.addRoad(2, 1, 1, true);
         m.come(0);
@@ -760,7 +715,7 @@ public final class PromiseTest {
     }
 
     private static void promise21() {
-        Minestrata m = pair();
+        Minestrata m = Mines.pair();
         Check.fails("nobody", Check.BOUNDS, () -> m.whereIs(0));
         m.come(1);
         m.come(0);
@@ -839,7 +794,7 @@ public final class PromiseTest {
             m.shift();
             Check.is("it is full", m.isFull(2), true);
         }
-        Minestrata m = pair();
+        Minestrata m = Mines.pair();
         m.come(1);
         m.setSensor(0, 0);
         m.step('b', 0, 0);
@@ -856,7 +811,7 @@ public final class PromiseTest {
 
     /** A shift may leave people in gas: then the junction is not good, whatever ways there are. */
     private static void promises22And23Gas() {
-        Minestrata m = pair();
+        Minestrata m = Mines.pair();
         m.step('f', 0, 20);
         m.setLimit(100);
         m.step('s', 1, 1);
@@ -941,7 +896,7 @@ public final class PromiseTest {
     }
 
     private static void promise25() {
-        Minestrata m = stopes(50, 10);
+        Minestrata m = Mines.stopes(50, 10);
         Check.fails("stope 2", Check.BOUNDS, () -> m.tons(2));
         Check.fails("stope -1", Check.BOUNDS, () -> m.tons(-1));
         Check.is("at first", m.tons(0), 10);
@@ -953,7 +908,7 @@ public final class PromiseTest {
     }
 
     private static void promise26() {
-        Minestrata m = stopes(50, 90, 90, 90, 90);
+        Minestrata m = Mines.stopes(50, 90, 90, 90, 90);
         Check.fails("stope 5", Check.BOUNDS, () -> m.load(5));
         Check.fails("stope -1", Check.BOUNDS, () -> m.load(-1));
         m.join(1, 2);
@@ -984,7 +939,7 @@ public final class PromiseTest {
 
     /** A filled one bears any load; loads that meet an empty mine are lost. */
     private static void promise26Filled() {
-        Minestrata m = stopes(50, 99, 99);
+        Minestrata m = Mines.stopes(50, 99, 99);
         m.step('o', 0, 10);
         Check.is("five each", m.load(1), 15);
         m.step('c', 0, 0);
@@ -1009,7 +964,7 @@ public final class PromiseTest {
     }
 
     private static void promise27() {
-        Minestrata m = stopes(50, 14, 15);
+        Minestrata m = Mines.stopes(50, 14, 15);
         Check.fails("stope 3", Check.BOUNDS, () -> m.stateOf(3));
         Check.fails("stope -1", Check.BOUNDS, () -> m.stateOf(-1));
         Check.is("ore", m.stateOf(0), 'o');
@@ -1031,7 +986,7 @@ public final class PromiseTest {
 
     /** The lowest first, then all are looked at anew. */
     private static void promise27Order() {
-        Minestrata m = stopes(90, 90, 14, 14);
+        Minestrata m = Mines.stopes(90, 90, 14, 14);
         m.join(2, 3);
         m.join(1, 2);
         m.step('o', 0, 10);
@@ -1040,7 +995,7 @@ public final class PromiseTest {
         m.step('o', 1, 10);
         Check.is("2 goes", m.stateOf(2), 'x');
         Check.is("3 follows", m.stateOf(3), 'x');
-        Minestrata n = stopes(90, 14, 14);
+        Minestrata n = Mines.stopes(90, 14, 14);
         n.join(1, 2);
         n.addStope(1, 10, 0, 99);
         n.join(2, 3);
@@ -1051,7 +1006,7 @@ public final class PromiseTest {
     }
 
     private static void promise28() {
-        Minestrata m = stopes(50, 10);
+        Minestrata m = Mines.stopes(50, 10);
         Check.fails("stope 2", Check.BOUNDS, () -> m.pile(2));
         Check.fails("stope -1", Check.BOUNDS, () -> m.pile(-1));
         Check.is("none", m.pile(1), 0);
@@ -1065,7 +1020,7 @@ public final class PromiseTest {
     }
 
     private static void promise29Arguments() {
-        Minestrata m = piles(20, 500);
+        Minestrata m = Mines.piles(20, 500);
         Check.fails("0 tons", Check.ARGUMENT, () -> m.deliver(0, 1, 2));
         Check.fails("21 tons", Check.ARGUMENT, () -> m.deliver(21, 1, 2));
         Check.fails("least -1", Check.ARGUMENT, () -> m.deliver(1, -1, 2));
@@ -1077,29 +1032,29 @@ public final class PromiseTest {
         Check.fails("no tons left, wrong grade", Check.ARGUMENT, () -> m.deliver(1, 0, 1000));
         Minestrata none = new Minestrata();
         Check.fails("no stopes", Check.UNSUPPORTED, () -> none.deliver(1, 0, 0));
-        Minestrata few = piles(2, 5, 3, 5);
+        Minestrata few = Mines.piles(2, 5, 3, 5);
         Check.fails("six of five", Check.UNSUPPORTED, () -> few.deliver(6, 0, 999));
         Check.is("five of five", few.deliver(5, 0, 999), 0);
     }
 
     private static void promise29Choice() {
-        taken(piles(10, 100, 10, 300, 10, 200), 4, 200, 200, 0, 2, 2, 0);
-        taken(piles(10, 100, 10, 300, 10, 200), 5, 200, 200, 0, 2, 2, 1);
-        taken(piles(10, 100, 10, 300), 5, 200, 200, 100, 3, 2);
-        taken(piles(10, 300, 10, 100), 5, 200, 200, 100, 3, 2);
-        taken(piles(10, 300, 1, 100), 5, 200, 200, 300, 4, 1);
-        taken(piles(10, 100, 10, 900), 3, 0, 99, 3, 3, 0);
-        taken(piles(10, 100, 10, 900), 3, 901, 950, 3, 0, 3);
-        taken(piles(1, 100, 10, 900, 10, 0), 3, 0, 0, 0, 0, 0, 3);
-        taken(piles(10, 0, 10, 0, 10, 0), 15, 0, 999, 0, 10, 5, 0);
-        taken(piles(10, 500, 10, 500, 10, 500), 20, 0, 999, 0, 10, 10, 0);
-        taken(piles(20, 0, 20, 999), 20, 999, 999, 0, 0, 20);
-        taken(piles(19, 999, 1, 999), 20, 999, 999, 0, 19, 1);
-        taken(piles(20, 0), 20, 999, 999, 19980, 20);
-        taken(piles(20, 999), 20, 0, 0, 19980, 20);
-        taken(piles(5, 10, 0, 20, 5, 30), 4, 20, 20, 0, 2, 0, 2);
-        taken(piles(3, 0, 3, 1, 3, 64, 3, 63, 3, 128, 3, 127, 3, 999, 3, 998), 20, 0, 999, 0, 3, 3, 3, 3, 3, 3, 2, 0);
-        taken(piles(3, 0, 3, 1, 3, 64, 3, 63, 3, 128, 3, 127, 3, 999, 3, 998), 8, 998, 998, 1737, 0, 0, 0, 0, 2, 0, 3, 3);
+        taken(Mines.piles(10, 100, 10, 300, 10, 200), 4, 200, 200, 0, 2, 2, 0);
+        taken(Mines.piles(10, 100, 10, 300, 10, 200), 5, 200, 200, 0, 2, 2, 1);
+        taken(Mines.piles(10, 100, 10, 300), 5, 200, 200, 100, 3, 2);
+        taken(Mines.piles(10, 300, 10, 100), 5, 200, 200, 100, 3, 2);
+        taken(Mines.piles(10, 300, 1, 100), 5, 200, 200, 300, 4, 1);
+        taken(Mines.piles(10, 100, 10, 900), 3, 0, 99, 3, 3, 0);
+        taken(Mines.piles(10, 100, 10, 900), 3, 901, 950, 3, 0, 3);
+        taken(Mines.piles(1, 100, 10, 900, 10, 0), 3, 0, 0, 0, 0, 0, 3);
+        taken(Mines.piles(10, 0, 10, 0, 10, 0), 15, 0, 999, 0, 10, 5, 0);
+        taken(Mines.piles(10, 500, 10, 500, 10, 500), 20, 0, 999, 0, 10, 10, 0);
+        taken(Mines.piles(20, 0, 20, 999), 20, 999, 999, 0, 0, 20);
+        taken(Mines.piles(19, 999, 1, 999), 20, 999, 999, 0, 19, 1);
+        taken(Mines.piles(20, 0), 20, 999, 999, 19980, 20);
+        taken(Mines.piles(20, 999), 20, 0, 0, 19980, 20);
+        taken(Mines.piles(5, 10, 0, 20, 5, 30), 4, 20, 20, 0, 2, 0, 2);
+        taken(Mines.piles(3, 0, 3, 1, 3, 64, 3, 63, 3, 128, 3, 127, 3, 999, 3, 998), 20, 0, 999, 0, 3, 3, 3, 3, 3, 3, 2, 0);
+        taken(Mines.piles(3, 0, 3, 1, 3, 64, 3, 63, 3, 128, 3, 127, 3, 999, 3, 998), 8, 998, 998, 1737, 0, 0, 0, 0, 2, 0, 3, 3);
     }
 
     private static void taken(Minestrata m, int tons, int least, int greatest, int penalty, int... due) {
@@ -1110,7 +1065,7 @@ public final class PromiseTest {
     }
 
     private static void promise30() {
-        Minestrata m = piles(5, 100, 5, 200);
+        Minestrata m = Mines.piles(5, 100, 5, 200);
         Check.fails("stope 2", Check.BOUNDS, () -> m.delivered(2));
         Check.fails("stope -1", Check.BOUNDS, () -> m.delivered(-1));
         Check.is("none", m.delivered(0), 0);
@@ -1129,7 +1084,7 @@ public final class PromiseTest {
     }
 
     private static void promise31() {
-        Minestrata m = pair();
+        Minestrata m = Mines.pair();
         m.addJunction(false, 0);
         m.addRoad(2, 0, 1, false);
         m.addRoad(1, 2, 1, false);
@@ -1157,7 +1112,7 @@ public final class PromiseTest {
     }
 
     private static void promise32() {
-        Minestrata m = pair();
+        Minestrata m = Mines.pair();
         m.come(1);
         Check.is("none", m.refused(), 0);
         m.step('b', 0, 1);
@@ -1171,7 +1126,7 @@ public final class PromiseTest {
     }
 
     private static void promise33() {
-        Minestrata m = pair();
+        Minestrata m = Mines.pair();
         Check.is("none", m.people(), 0);
         m.come(1);
         m.come(0);
@@ -1182,7 +1137,7 @@ public final class PromiseTest {
     }
 
     private static void promise34() {
-        Minestrata m = piles(60, 0);
+        Minestrata m = Mines.piles(60, 0);
         Check.is("none", m.penalties(), 0L);
         m.deliver(20, 999, 999);
         Check.is("one", m.penalties(), 19980L);
@@ -1205,7 +1160,7 @@ public final class PromiseTest {
     }
 
     private static void promise36() {
-        Minestrata m = stopes(90, 90, 90);
+        Minestrata m = Mines.stopes(90, 90, 90);
         Minestrata none = new Minestrata();
         Check.fails("no stopes", Check.ARITHMETIC, none::meanLoad);
         m.addStope(1, 5, 5, 50);
@@ -1225,7 +1180,7 @@ public final class PromiseTest {
     }
 
     private static void promise37() {
-        Minestrata m = line(10);
+        Minestrata m = Mines.line(10);
         Check.is("sound", m.isSound(), true);
         m.addRoad(2, 0, 7, true);
         m.addStope(2, 10, 10, 10);
